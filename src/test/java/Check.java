@@ -1,18 +1,36 @@
+import java.util.HashSet;
+import java.util.Set;
+
 /** Counts answers that are not the ones that are due, and writes drafts. */
 final class Check {
+    private static final int NONE = ScopeLines.NONE;
+
+    private String words = "";
+    private final Set<String> sentences = new HashSet<>();
     private int wrong;
     private int made;
 
+    /** The words of the document that the next answers are about. */
+    void sentence(String said) {
+        words = said;
+        sentences.add(said);
+    }
+
     void due(String call, long got, long want) {
-        made++;
-        if (got != want) {
-            wrong++;
-            System.out.println(call + " answered " + got + ", due is " + want);
-        }
+        due(call, Long.toString(got), Long.toString(want));
     }
 
     void due(String call, boolean got, boolean want) {
-        due(call, got ? 1 : 0, want ? 1 : 0);
+        due(call, Boolean.toString(got), Boolean.toString(want));
+    }
+
+    void due(String call, String got, String want) {
+        made++;
+        if (!got.equals(want)) {
+            wrong++;
+            System.out.println((words.isEmpty() ? "" : "'" + words + "': ")
+                    + call + " answered " + got + ", due is " + want);
+        }
     }
 
     /** Replaces the draft. */
@@ -60,16 +78,47 @@ final class Check {
     }
 
     void dueTokens(ScopeLines x, int k, String want) {
-        made++;
-        String got = tokensOf(x, k);
-        if (!got.equals(want)) {
-            wrong++;
-            System.out.println("line " + k + " has the tokens " + got + ", due are " + want);
+        due("the tokens of line " + k, tokensOf(x, k), want);
+    }
+
+    /** The end state of a line as "range(length of text 1,length of text 2)", with blanks between. */
+    static String stateOf(ScopeLines x, int k) {
+        StringBuilder all = new StringBuilder();
+        for (int level = 0; level < x.state(k, -1); level++) {
+            all.append(level == 0 ? "" : " ").append(x.state(k, level))
+                    .append('(').append(x.text(k, level, 1)).append(',').append(x.text(k, level, 2)).append(')');
+        }
+        return all.toString();
+    }
+
+    void dueState(ScopeLines x, int k, String want) {
+        due("the end state of line " + k, stateOf(x, k), want);
+    }
+
+    /** The answers of find for w = 0, 1, and so on, as many as are due. */
+    void dueFind(ScopeLines x, int r, int k, int p, int... want) {
+        for (int w = 0; w < want.length; w++) {
+            due("find(" + r + ", " + k + ", " + p + ", " + w + ")", x.find(r, k, p, w), want[w]);
         }
     }
 
+    /** The same for a pattern that is the only rule and a line that is the only one. */
+    void dueFind(String pattern, String line, int p, int... want) {
+        ScopeLines x = new ScopeLines(300);
+        due("piece " + pattern, piece(x, pattern, 0, 1), 1);
+        put(x, line, 0);
+        for (int w = 0; w < want.length; w++) {
+            due(pattern + " in " + line + " from " + p + ", w = " + w, x.find(1, 0, p, w), want[w]);
+        }
+    }
+
+    void dueNotFound(String pattern, String line, int steps) {
+        dueFind(pattern, line, 0, NONE, NONE, steps, NONE, NONE, NONE, NONE, NONE, NONE);
+    }
+
     void finish(String name) {
-        System.out.println(name + ": " + made + " answers looked at, " + wrong + " wrong");
+        String about = sentences.isEmpty() ? "" : sentences.size() + " sentences, ";
+        System.out.println(name + ": " + about + made + " answers looked at, " + wrong + " wrong");
         if (wrong > 0) {
             System.exit(1);
         }

@@ -535,12 +535,7 @@ public final class PromisesTest {
     }
 
     private static void dueFind(String pattern, String line, int p, int... want) {
-        ScopeLines x = new ScopeLines(300);
-        due("piece " + pattern, Check.piece(x, pattern, 0, 1), 1);
-        Check.put(x, line, 0);
-        for (int w = 0; w < want.length; w++) {
-            due("find " + pattern + " in " + line + " w " + w, x.find(1, 0, p, w), want[w]);
-        }
+        CHECK.dueFind(pattern, line, p, want);
     }
 
     private static void matching() {
