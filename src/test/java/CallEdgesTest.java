@@ -313,11 +313,35 @@ public final class CallEdgesTest {
         CHECK.due("in rule 3", Check.range(x, "a b", 3, 1), 4);
     }
 
+    private static void illDraftsLeaveNothing() {
+        CHECK.sentence("A call that answers one of the constants changes nothing: what an ILL draft was leaves no trace");
+        ScopeLines x = new ScopeLines(300);
+        Check.put(x, "xabab", 0);
+        String[] ill = {"[a][b][c](", "[a][b][c](", "[a][b][c](", "(a|", "((|", "(((a", "(a)(b)(c)(", "a|b|(", "[!-~]*+",
+            "(|)(", "a b", "[^!-~]["};
+        for (String draft : ill) {
+            CHECK.due("piece " + draft, Check.piece(x, draft, 0, 1), ILL);
+            CHECK.due("range " + draft, Check.range(x, draft + " " + draft, 0, 1), ILL);
+            CHECK.due("range a " + draft, Check.range(x, "a " + draft, 0, 1), ILL);
+        }
+        CHECK.due("piece", Check.piece(x, "([a])([b])", 0, 1), 1);
+        CHECK.dueFind(x, 1, 0, 0, 1, 3, 3, 1, 2, 2, 3, NONE, NONE);
+        CHECK.due("piece", Check.piece(x, "(a|b)+(b)*", 0, 1), 2);
+        CHECK.dueFind(x, 2, 0, 0, 1, 5, 11, 4, 5, NONE, NONE, NONE, NONE);
+        for (String draft : ill) {
+            Check.range(x, "c " + draft, 0, 1);
+        }
+        CHECK.due("range", Check.range(x, "b [b]+", 0, 1), 3);
+        CHECK.dueFind(x, 3, 0, 0, 2, 3, 3, NONE);
+    }
+
     private static void includes() {
         CHECK.sentence("include: false if one of them is no range");
         for (int wrong : new int[] {LEAST, -1, 2, 4, 5, 9, 10, 11, MOST}) {
             dueSame("include(" + wrong + ", 0)", SOME, x -> x.include(wrong, 0), false);
-            dueSame("include(0, " + wrong + ")", SOME, x -> x.include(0, wrong), false);
+            for (int r : new int[] {0, 1, 3}) {
+                dueSame("include(" + r + ", " + wrong + ")", SOME, x -> x.include(r, wrong), false);
+            }
             dueSame("include(" + wrong + ", itself)", SOME, x -> x.include(wrong, wrong), false);
         }
         dueSame("include(1, 0)", NEW, x -> x.include(1, 0), false);
@@ -471,6 +495,9 @@ public final class CallEdgesTest {
             CHECK.due("no fourth", x.length(3), NONE);
             CHECK.due("the draft stays", x.put(3), 1);
             CHECK.due("it is a+b", x.length(3), 3);
+            for (int i = 0; i < 3; i++) {
+                CHECK.due("length of " + i + " still", x.length(i), lengths[i < k ? i : i + 1]);
+            }
         }
         ScopeLines x = ALL.get();
         for (int left = 5; left >= 0; left--) {
@@ -685,6 +712,7 @@ public final class CallEdgesTest {
         rules(false);
         rules(true);
         rangeDrafts();
+        illDraftsLeaveNothing();
         includes();
         themes();
         puts();

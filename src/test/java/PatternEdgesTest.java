@@ -76,6 +76,17 @@ public final class PatternEdgesTest {
         dueRange("a".repeat(21) + " " + "b".repeat(18), false);
         dueRange("a".repeat(18) + " " + "b".repeat(21), false);
         CHECK.dueFind("a".repeat(20), "b" + "a".repeat(20), 0, 1, 21, 21);
+        CHECK.dueFind("|".repeat(20), "a", 0, 0, 0, 0);
+        CHECK.dueFind("a|".repeat(10), "b", 0, 0, 0, 10);
+        CHECK.sentence("PATTERNS have 1 .. 20 characters: what is not ended at the 20th is none");
+        String[] open = {"[", "[^", "[a", "[^a", "[a-", "[a-b", "\\", "(", "(a", "(a|", "a**", "a???", "|*"};
+        for (String last : open) {
+            duePattern("a".repeat(20 - last.length()) + last, false);
+        }
+        String[] ended = {"[a]", "[^a]", "[a-]", "[a-b]", "\\a", "(a)", "(a|)", "a*", "a*?", "a??", "|", "^", "$"};
+        for (String last : ended) {
+            duePattern("a".repeat(20 - last.length()) + last, true);
+        }
     }
 
     private static void blanks() {
@@ -192,6 +203,9 @@ public final class PatternEdgesTest {
             duePattern("(d)" + pattern, false);
             duePattern("(" + pattern + ")", false);
             duePattern(pattern + "[(]\\(", true);
+            duePattern(pattern + "(", false);
+            duePattern(pattern + "(d", false);
+            duePattern("(" + pattern, false);
         }
         CHECK.sentence("these GROUPS are numbered 1, 2, 3 by their (");
         CHECK.dueFind("((a)(b))", "xab", 0, 1, 3, 3, 1, 3, 1, 2, 2, 3);
@@ -220,6 +234,11 @@ public final class PatternEdgesTest {
         dueMembers("[^`]", but("`"));
         dueMembers("[b-da-c]", "abcd");
         dueMembers("[(*+?.$|)[]", "(*+?.$|)[");
+        CHECK.dueFind("[a][b][c][d][e][f]", "abcdeabcdef", 0, 5, 11, 16);
+        CHECK.dueFind("[a-c][^a-c]", "abcd", 0, 2, 4, 6);
+        CHECK.dueNotFound("[ab][c]", "abab", 9);
+        CHECK.dueNotFound("[AB][1]", "ABAB", 9);
+        CHECK.dueNotFound("[_`][^_`]", "_`", 5);
         CHECK.sentence("c and d being characters other than ]");
         duePattern("[]]", false);
         duePattern("[]-a]", false);
@@ -322,6 +341,12 @@ public final class PatternEdgesTest {
             for (String atom : empty) {
                 duePattern(atom + q, true);
             }
+        }
+        CHECK.sentence("a group with a branch all of whose pieces can be EMPTY, not another group of the pattern");
+        String[] apart = {"(a|)(b)*", "(|a)(b|c)+", "(a?)(b)+?", "()(b)*?", "(a|)b*", "^a*", "a?b*", "(^|a)(b)*",
+            "((a|)b)(c)*", "|(a)*", "a||(b)+", "((|)a|b)*"};
+        for (String pattern : apart) {
+            duePattern(pattern, true);
         }
         CHECK.sentence("\\1, \\2 can be EMPTY");
         for (String q : REPEATING) {
@@ -443,6 +468,12 @@ public final class PatternEdgesTest {
         CHECK.dueFind("|", "aba", 3, 3, 3, 0);
         CHECK.dueFind("$", "a".repeat(24), 0, 24, 24, 25);
         CHECK.dueNotFound("b", "a".repeat(24), 25);
+        CHECK.sentence("a row of things is worked off from its front: many ways that wait, and without a STEP");
+        CHECK.dueFind("((|)(|)a)*", "a".repeat(24), 0, 0, 24, 28, 23, 24, 23, 23, 23, 23);
+        CHECK.dueFind("((|)(|)a??a??a??b)*", "b".repeat(24), 0, 0, 24, 40, 23, 24, 23, 23, 23, 23);
+        CHECK.dueNotFound("(|||||)(||||)(||||)d", "", 150);
+        CHECK.dueFind("(|||||)(||||)(||||)d", "ad", 0, 1, 2, 151, 1, 1, 1, 1, 1, 1);
+        CHECK.dueFind("(|||||)(||||)(||||)$", "a", 0, 1, 1, 151);
     }
 
     /** Searches b, from a place on, in a line of so many a and then what is given. */
@@ -527,6 +558,17 @@ public final class PatternEdgesTest {
             Check.put(x, near, 1);
             CHECK.due("open behind " + near, x.state(1, -1), 1);
         }
+        for (String last : new String[] {"a", "ab", "abc"}) {
+            Check.put(x, "x".repeat(24 - last.length()) + last, 1);
+            CHECK.due("open behind " + last + " at the line's end", x.state(1, -1), 1);
+        }
+        Check.put(x, "abc;", 1);
+        for (String left : new String[] {"", "a", "ab", "abc"}) {
+            Check.put(x, left, 1);
+            CHECK.due("open behind what is left of abc;", x.state(1, -1), 1);
+        }
+        Check.put(x, "x".repeat(20) + "abc;", 1);
+        CHECK.dueState(x, 1, "");
         Check.put(x, "ababc;d", 1);
         CHECK.dueTokens(x, 1, "0:1/1 2:1/1 6:0/0");
         CHECK.dueState(x, 1, "");

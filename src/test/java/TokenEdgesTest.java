@@ -163,6 +163,17 @@ public final class TokenEdgesTest {
         CHECK.due("no a by eleven STEPS", x.marked(0), true);
         dueLine(x, "accccccccc", "0:0/0", "");
         CHECK.due("no b by eleven STEPS, a at place 0", x.marked(0), true);
+        x = with(10, "0 1 a|(||||||||)d");
+        dueLine(x, "aa", "0:1/1 1:1/1", "");
+        CHECK.due("ten STEPS at the line's end", x.marked(0), false);
+        x = with(10, "0 1 a|(|||||||||)d");
+        dueLine(x, "aa", "0:0/0", "");
+        CHECK.due("eleven STEPS at the line's end", x.marked(0), true);
+        x = with(10, "0 1 <|b ;");
+        dueLine(x, "<bbbbbbbbb", "0:1/1 1:1/1", "1(0,0)");
+        CHECK.due("ten STEPS within the range", x.marked(0), false);
+        dueLine(x, "<bbbbbbbbbb", "0:0/0", "");
+        CHECK.due("eleven STEPS within the range", x.marked(0), true);
         CHECK.sentence("it has one token, of its whole length, with the scopes of the state it was begun with");
         x = with(10, "0 1 <(.) ;", "1 2 {(.)(.) ;");
         putAll(x, "<a{bc", ";{de", "", "");
@@ -311,6 +322,11 @@ public final class TokenEdgesTest {
         putAll(x, "<<<<<", "abcdefghijklmnopqrstuvx<");
         CHECK.due("24 tokens", x.tokens(1), 24);
         CHECK.dueState(x, 1, "1(0,0)");
+        x = with(25, "0 1 < ^", "1 1 < ^", "0 2 [a-z<]|(||||)(||||)1 |");
+        x.include(2, 1);
+        putAll(x, "<<<<<", "abcdefghijklmnopqrstuvwx");
+        CHECK.due("OVER behind the last match", x.marked(1), true);
+        CHECK.dueTokens(x, 1, "0:1/5");
     }
 
     private static void scopesOfTokens() {
@@ -327,7 +343,7 @@ public final class TokenEdgesTest {
     }
 
     private static ScopeLines document(String... lines) {
-        ScopeLines x = with(300, "0 1 <(.)(.)? ;", "0 2 { ;");
+        ScopeLines x = with(300, "0 1 <(.)(.)? ;", "0 2 { ;", "0 3 / ;");
         putAll(x, lines);
         return x;
     }
@@ -339,8 +355,8 @@ public final class TokenEdgesTest {
         CHECK.due("a seventh", Check.put(x, "v", 6), FULL);
         CHECK.due("the sixth anew", Check.put(x, "v", 5), 1);
         CHECK.sentence("tokenized until one has been that has the same end state as it had before");
-        String[] puts = {"<ab", "q<ab", "<ac", "<bc", "<b", "<bd", "{", "<cd", "", "<ab"};
-        int[] done = {1, 1, 4, 4, 4, 4, 4, 4, 4, 4};
+        String[] puts = {"<ab", "q<ab", "<ac", "<bc", "<b", "<bd", "{", "/", "a/", "<cd", "", "<ab"};
+        int[] done = {1, 1, 4, 4, 4, 4, 4, 4, 1, 4, 4, 4};
         for (int i = 0; i < puts.length; i++) {
             int passes = x.passes();
             CHECK.due("put(0) of " + puts[i], Check.put(x, puts[i], 0), done[i]);
@@ -405,6 +421,8 @@ public final class TokenEdgesTest {
         CHECK.due("another range without it", x.drop(1), 2);
         x = document("<ab", ";<bb", "x", ";");
         CHECK.due("another text 1 without it", x.drop(1), 2);
+        x = document("/", ";{", "x", ";");
+        CHECK.due("another range of the same texts without it", x.drop(1), 2);
     }
 
     private static void allLines() {
@@ -487,6 +505,24 @@ public final class TokenEdgesTest {
         dueColours(new int[] {3, 0, 1, 3, 0, 2, 3, 0, 3, 3, 0, 4, 3, 0, 5, 3, 0, 6}, 6, 0, 0, 6, 0);
     }
 
+    private static void coloursAnew() {
+        CHECK.sentence("of its SCOPES: those that it has now");
+        ScopeLines x = coloured(3, 0, 9, 2, 0, 8);
+        Check.put(x, "<<<<<", 0);
+        CHECK.dueTokens(x, 0, "0:1/1 1:1/1");
+        CHECK.due("<", x.token(0, 0, 3), 0);
+        CHECK.due("<<<<", x.token(0, 1, 3), 0);
+        for (String deeper : new String[] {"<{a{a", "bbbbb", "<{{{{"}) {
+            Check.put(x, deeper, 0);
+            Check.put(x, "c}d>e", 0);
+            CHECK.due("c}d>e", x.token(0, 0, 3), 0);
+            Check.put(x, "<>c<>", 0);
+            for (int t = 0; t < 5; t++) {
+                CHECK.due("token " + t + " of <>c<>", x.token(0, t, 3), 0);
+            }
+        }
+    }
+
     public static void main(String[] args) {
         numbers();
         candidateOrder();
@@ -502,6 +538,7 @@ public final class TokenEdgesTest {
         dropping();
         allLines();
         colours();
+        coloursAnew();
         CHECK.finish("TokenEdgesTest");
     }
 }
