@@ -30,11 +30,23 @@ public final class PatternEdgesTest {
     }
 
     private static void duePiece(String pattern, boolean good) {
-        CHECK.due("piece " + pattern, Check.piece(new ScopeLines(300), pattern, 0, 1), good ? 1 : ILL);
+        ScopeLines x = new ScopeLines(300);
+        CHECK.due("piece " + pattern, Check.piece(x, pattern, 0, 1), good ? 1 : ILL);
+        dueDraft(x, pattern, good);
     }
 
     private static void dueRange(String both, boolean good) {
-        CHECK.due("range " + both, Check.range(new ScopeLines(300), both, 0, 1), good ? 1 : ILL);
+        ScopeLines x = new ScopeLines(300);
+        CHECK.due("range " + both, Check.range(x, both, 0, 1), good ? 1 : ILL);
+        dueDraft(x, both, good);
+    }
+
+    /** A draft that was taken is empty and a rule; one that was refused stays, and there is no rule. */
+    private static void dueDraft(ScopeLines x, String draft, boolean taken) {
+        int length = taken ? 0 : draft.length();
+        CHECK.due("a line of " + draft, x.put(0), length > 24 ? ILL : 1);
+        CHECK.due("its length", x.length(0), length > 24 ? NONE : length);
+        CHECK.due("the next rule", Check.piece(x, "a", 0, 1), taken ? 2 : 1);
     }
 
     /** As a PIECE's pattern, as a BEGIN and as an END. */
